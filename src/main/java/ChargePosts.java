@@ -36,6 +36,7 @@ public final class ChargePosts {
     private long start;
 
     public ChargePosts() {
+        now.begin(site);
         for (int slot = 0; slot < SLOTS; slot++) {
             slots[slot] = new State();
         }
@@ -617,12 +618,6 @@ public final class ChargePosts {
         private final int[] rest = new int[MOST_CARS];
         int limit;
         int minute;
-
-        State() {
-            for (int post = 0; post < MOST_POSTS; post++) {
-                set(post, CAR, NONE);
-            }
-        }
 
         void begin(Site site) {
             for (int post = 0; post < MOST_POSTS; post++) {

@@ -18,6 +18,7 @@ final class AskedTest {
         promise20Errors();
         promise21Acts();
         promise21Claims();
+        promise21Numbers();
         promise21Wrong();
         promise21Errors();
         EXPECT.finish();
@@ -332,6 +333,21 @@ final class AskedTest {
         judge(x, 3, 803101700, 2);
         judge(x, 3, 813101704, NONE);
         judge(x, 3, 405601101, NONE);
+    }
+
+    private static void promise21Numbers() {
+        // A mute car draws 2 a minute from minute 3 on.
+        ChargePosts x = Expect.built("F991p9c20902");
+        judge(x, 3, 200112700, NONE);
+        judge(x, 3, 200111700, 2);
+        judge(x, 3, 200111702, NONE);
+        // 10 for both cars: with one less the first car is not charged in a minute.
+        ChargePosts y = ready("F009p9p9c09900c01900");
+        judge(y, 2, 800805, NONE);
+        judge(y, 3, 810101700, NONE);
+        judge(y, 3, 809101700, 2);
+        judge(y, 3, 809101701, NONE);
+        judge(y, 3, 808101701, 2);
     }
 
     private static void promise21Wrong() {
