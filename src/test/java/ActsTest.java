@@ -27,18 +27,9 @@ final class ActsTest {
         EXPECT.due(call, got, want);
     }
 
-    private static ChargePosts ready(String text) {
-        ChargePosts x = Expect.built(text);
-        for (int post = 0; post < x.about(0) && post < x.about(1); post++) {
-            x.plug(post, post);
-            Expect.greet(x, post);
-        }
-        return x;
-    }
-
     private static void promise9Minute() {
         EXPECT.part("promise 9");
-        ChargePosts x = ready("F109p7p4c90910c90900");
+        ChargePosts x = Expect.ready("F109p7p4c90910c90900");
         due("minute(0)", x.minute(0), BAD);
         due("minute(-1)", x.minute(-1), BAD);
         due("minute(100)", x.minute(100), BAD);
@@ -98,7 +89,7 @@ final class ActsTest {
 
     private static void promise11Pull() {
         EXPECT.part("promise 11");
-        ChargePosts x = ready("F091p7p4c20901c20900");
+        ChargePosts x = Expect.ready("F091p7p4c20901c20900");
         x.minute(1);
         due("excess before", x.post(0, EXCESS), 1);
         due("silence before", x.post(0, SILENCE), 1);
@@ -160,7 +151,7 @@ final class ActsTest {
             }
         }
         for (int letter = 0; letter < 4; letter++) {
-            ChargePosts x = ready("F099p7c20900");
+            ChargePosts x = Expect.ready("F099p7c20900");
             due("say(0, " + letter + ") to a ready post", x.say(0, letter), 4);
             due("stage of it", x.post(0, STAGE), 4);
             x.undo();
@@ -170,7 +161,7 @@ final class ActsTest {
     }
 
     private static void promise12SayEnd() {
-        ChargePosts x = ready("F099p7c20900");
+        ChargePosts x = Expect.ready("F099p7c20900");
         due("say(0, 4) to a ready post", x.say(0, 4), 2);
         due("say(0, 5) to a ready post", x.say(0, 5), 1);
         due("stage", x.post(0, STAGE), 0);
@@ -217,7 +208,7 @@ final class ActsTest {
 
     private static void promise13Reset() {
         EXPECT.part("promise 13");
-        ChargePosts x = ready("F993p7p9p4c90901c90900c20900");
+        ChargePosts x = Expect.ready("F993p7p9p4c90901c90900c20900");
         due("reset() of a ready post", x.reset(0), LATE);
         x.minute(1);
         due("reset() of a post that is on", x.reset(0), LATE);
@@ -250,7 +241,7 @@ final class ActsTest {
 
     private static void promise14Limit() {
         EXPECT.part("promise 14");
-        ChargePosts x = ready("F129p9c90900");
+        ChargePosts x = Expect.ready("F129p9c90900");
         due("limit(0)", x.limit(0), 12);
         due("limit(99)", x.limit(99), 0);
         due("limit(4)", x.limit(4), 99);

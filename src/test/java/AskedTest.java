@@ -28,21 +28,12 @@ final class AskedTest {
         EXPECT.due(call, got, want);
     }
 
-    private static ChargePosts ready(String text) {
-        ChargePosts x = Expect.built(text);
-        for (int post = 0; post < x.about(0) && post < x.about(1); post++) {
-            x.plug(post, post);
-            Expect.greet(x, post);
-        }
-        return x;
-    }
-
     /**
      * The plain car 0 is given 5 a minute; the liar draws 3 in minutes 1 and 2 and kills its post; the mute
      * one is on from minute 3 and draws 2 a minute. Without communication post 0 dies in minute 4.
      */
     private static ChargePosts busy() {
-        return ready("F073p5p3p9c20920c12411c30952");
+        return Expect.ready("F073p5p3p9c20920c12411c30952");
     }
 
     private static void ahead(ChargePosts x, int n, boolean talk, int post, int what, int want) {
@@ -116,7 +107,7 @@ final class AskedTest {
     }
 
     private static void promise17Bounds() {
-        due("99 minutes", ready("F991p1c99900").done(0), 99);
+        due("99 minutes", Expect.ready("F991p1c99900").done(0), 99);
         ChargePosts x = Expect.built("F991p9p9c97102c98102");
         x.plug(0, 0);
         x.plug(1, 1);
@@ -127,7 +118,7 @@ final class AskedTest {
 
     private static void promise18Least() {
         EXPECT.part("promise 18");
-        ChargePosts x = ready("F009p9p9c10900c20900");
+        ChargePosts x = Expect.ready("F009p9p9c10900c20900");
         due("least(0)", x.least(0), NONE);
         due("least(2), as 20 are too many", x.least(2), NONE);
         due("least(3)", x.least(3), 10);
@@ -139,11 +130,11 @@ final class AskedTest {
         due("acts", x.about(9), 10);
         x.limit(50);
         due("least(4), whatever the limit is", x.least(4), 8);
-        due("all that four posts can be given", ready("F001p9p9p9p9c09900c09900c09900c09900").least(1), 36);
-        due("one less", ready("F001p9p9p9p9c09900c09900c09900c08900").least(1), 35);
-        due("more than they can be given", ready("F001p9p9p9p9c09900c09900c09900c10900").least(1), NONE);
-        due("a liar is charged by less", ready("F001p9c10901").least(1), 9);
-        due("with communication", ready("F001p9c40900").least(40), 1);
+        due("all that four posts can be given", Expect.ready("F001p9p9p9p9c09900c09900c09900c09900").least(1), 36);
+        due("one less", Expect.ready("F001p9p9p9p9c09900c09900c09900c08900").least(1), 35);
+        due("more than they can be given", Expect.ready("F001p9p9p9p9c09900c09900c09900c10900").least(1), NONE);
+        due("a liar is charged by less", Expect.ready("F001p9c10901").least(1), 9);
+        due("with communication", Expect.ready("F001p9c40900").least(40), 1);
     }
 
     private static void promise18Who() {
@@ -167,7 +158,7 @@ final class AskedTest {
     }
 
     private static void promise18Errors() {
-        ChargePosts x = ready("F099p9c05900");
+        ChargePosts x = Expect.ready("F099p9c05900");
         due("least(-1)", x.least(-1), BAD);
         due("least(41)", x.least(41), BAD);
         due("least(41) without posts", new ChargePosts().least(41), BAD);
@@ -311,7 +302,7 @@ final class AskedTest {
     }
 
     private static void promise21Claims() {
-        ChargePosts x = ready("F092p9p9c05900c13900");
+        ChargePosts x = Expect.ready("F092p9p9c05900c13900");
         judge(x, 1, 602, NONE);
         judge(x, 1, 601, 0);
         judge(x, 1, 603, 0);
@@ -342,7 +333,7 @@ final class AskedTest {
         judge(x, 3, 200111700, 2);
         judge(x, 3, 200111702, NONE);
         // 10 for both cars: with one less the first car is not charged in a minute.
-        ChargePosts y = ready("F009p9p9c09900c01900");
+        ChargePosts y = Expect.ready("F009p9p9c09900c01900");
         judge(y, 2, 800805, NONE);
         judge(y, 3, 810101700, NONE);
         judge(y, 3, 809101700, 2);
@@ -351,7 +342,7 @@ final class AskedTest {
     }
 
     private static void promise21Wrong() {
-        ChargePosts x = ready("F092p9c05900");
+        ChargePosts x = Expect.ready("F092p9c05900");
         judge(x, 1, 0, 0);
         judge(x, 1, 99, 0);
         judge(x, 1, 900, 0);
@@ -365,7 +356,7 @@ final class AskedTest {
     }
 
     private static void promise21Errors() {
-        ChargePosts x = ready("F092p9c05900");
+        ChargePosts x = Expect.ready("F092p9c05900");
         judge(x, 0, 0, BAD);
         judge(x, 4, 602, BAD);
         judge(x, -1, 602, BAD);

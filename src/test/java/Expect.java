@@ -24,6 +24,19 @@ final class Expect {
         }
     }
 
+    /** Compares two rows of lines and tells the first line in which they differ. */
+    void same(String call, List<String> got, List<String> want) {
+        asked++;
+        for (int i = 0; i < Math.max(got.size(), want.size()); i++) {
+            String one = i < got.size() ? got.get(i) : "nothing";
+            String other = i < want.size() ? want.get(i) : "nothing";
+            if (!one.equals(other)) {
+                wrong.add(part + ": " + call + " has " + one + ", due is " + other);
+                return;
+            }
+        }
+    }
+
     /** Prints what was wrong and ends the program with 1 if anything was. */
     void finish() {
         for (String line : wrong) {
@@ -52,6 +65,16 @@ final class Expect {
     static ChargePosts built(String text) {
         ChargePosts x = written(text);
         x.site();
+        return x;
+    }
+
+    /** The site of a text with car k at post k, all ready but for the mute ones. */
+    static ChargePosts ready(String text) {
+        ChargePosts x = built(text);
+        for (int post = 0; post < x.about(0) && post < x.about(1); post++) {
+            x.plug(post, post);
+            greet(x, post);
+        }
         return x;
     }
 

@@ -33,16 +33,6 @@ final class MinuteTest {
         EXPECT.due(call, got, want);
     }
 
-    /** The posts and cars of a text, car k at post k, all ready but for the mute ones. */
-    private static ChargePosts ready(String text) {
-        ChargePosts x = Expect.built(text);
-        for (int post = 0; post < x.about(0) && post < x.about(1); post++) {
-            x.plug(post, post);
-            Expect.greet(x, post);
-        }
-        return x;
-    }
-
     private static void meters(ChargePosts x, int... want) {
         for (int post = 0; post < want.length; post++) {
             due("post(" + post + ", 7)", x.post(post, METER), want[post]);
@@ -50,7 +40,7 @@ final class MinuteTest {
     }
 
     private static void silence() {
-        ChargePosts x = ready("F992p9c99900");
+        ChargePosts x = Expect.ready("F992p9c99900");
         x.minute(2);
         due("silence at the patience", x.post(0, SILENCE), 2);
         due("state at the patience", x.post(0, STATE), 3);
@@ -89,7 +79,7 @@ final class MinuteTest {
     }
 
     private static void silenceStops() {
-        ChargePosts x = ready("F991p9c99900");
+        ChargePosts x = Expect.ready("F991p9c99900");
         x.minute(10);
         due("silence of a dead post", x.post(0, SILENCE), 2);
         due("age of a dead post", x.post(0, AGE), 0);
@@ -130,7 +120,7 @@ final class MinuteTest {
     }
 
     private static void stateByRest() {
-        ChargePosts x = ready("F999p9c10900");
+        ChargePosts x = Expect.ready("F999p9c10900");
         x.minute(2);
         due("on in the minute in which it is charged", x.post(0, STATE), 3);
         due("index then", x.post(0, INDEX), 0);
@@ -143,7 +133,7 @@ final class MinuteTest {
     }
 
     private static void orderByRank() {
-        ChargePosts x = ready("F059p9p9p9c90910c10930c50920");
+        ChargePosts x = Expect.ready("F059p9p9p9c90910c10930c50920");
         x.minute(1);
         due("index of rank 1", x.post(0, INDEX), 2);
         due("index of rank 3", x.post(1, INDEX), 0);
@@ -152,7 +142,7 @@ final class MinuteTest {
     }
 
     private static void orderByRest() {
-        ChargePosts x = ready("F059p9p9p9c20930c50930c40930");
+        ChargePosts x = Expect.ready("F059p9p9p9c20930c50930c40930");
         x.minute(1);
         meters(x, 1, 3, 1);
         due("index of the least rest", x.post(0, INDEX), 2);
@@ -161,7 +151,7 @@ final class MinuteTest {
     }
 
     private static void orderByNumber() {
-        ChargePosts x = ready("F099p9p9p9p9c20930c20930c20930c20930");
+        ChargePosts x = Expect.ready("F099p9p9p9p9c20930c20930c20930c20930");
         x.minute(1);
         meters(x, 6, 1, 1, 1);
         // The rests are 14, 19, 19, 19 now: post 0 is the last one.
@@ -174,7 +164,7 @@ final class MinuteTest {
     }
 
     private static void onlyOnesForAll() {
-        ChargePosts x = ready("F029p9p9p9c20910c20920c20930");
+        ChargePosts x = Expect.ready("F029p9p9p9c20910c20920c20930");
         x.minute(1);
         meters(x, 0, 1, 1);
         x.limit(3);
@@ -190,10 +180,10 @@ final class MinuteTest {
     }
 
     private static void caps() {
-        ChargePosts x = ready("F999p7p9p9p1c90900c90400c05900c90900");
+        ChargePosts x = Expect.ready("F999p7p9p9p1c90900c90400c05900c90900");
         x.minute(1);
         meters(x, 7, 4, 5, 1);
-        ChargePosts y = ready("F109p7p9p9c90930c90420c05910");
+        ChargePosts y = Expect.ready("F109p7p9p9c90930c90420c05910");
         y.minute(1);
         meters(y, 7, 2, 1);
     }
@@ -208,7 +198,7 @@ final class MinuteTest {
     }
 
     private static void liar() {
-        ChargePosts x = ready("F999p5c50901");
+        ChargePosts x = Expect.ready("F999p5c50901");
         x.minute(1);
         due("meter after 1 minute", x.post(0, METER), 6);
         due("rest after 1 minute", x.car(0, 4), 44);
@@ -224,7 +214,7 @@ final class MinuteTest {
     }
 
     private static void liarAtTheEnd() {
-        ChargePosts x = ready("F999p5c03901");
+        ChargePosts x = Expect.ready("F999p5c03901");
         x.minute(1);
         due("meter of a liar with the rest 3", x.post(0, METER), 4);
         due("its rest", x.car(0, 4), 0);
@@ -235,7 +225,7 @@ final class MinuteTest {
     }
 
     private static void nothingGiven() {
-        ChargePosts x = ready("F009p5c50901");
+        ChargePosts x = Expect.ready("F009p5c50901");
         x.minute(3);
         due("meter", x.post(0, METER), 0);
         due("excess", x.post(0, EXCESS), 0);
@@ -244,7 +234,7 @@ final class MinuteTest {
     }
 
     private static void excessStaysByEnd() {
-        ChargePosts x = ready("F999p5c50901");
+        ChargePosts x = Expect.ready("F999p5c50901");
         x.minute(1);
         x.say(0, 5);
         due("excess after the message end", x.post(0, EXCESS), 1);
@@ -260,7 +250,7 @@ final class MinuteTest {
     }
 
     private static void signs() {
-        ChargePosts x = ready("F999p3p4p5p6c99910c99920c99930c99940");
+        ChargePosts x = Expect.ready("F999p3p4p5p6c99910c99920c99930c99940");
         int[] sign = new int[4];
         for (int minute = 1; minute <= 9; minute++) {
             x.minute(1);

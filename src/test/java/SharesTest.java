@@ -23,15 +23,6 @@ final class SharesTest {
         EXPECT.due(call, got, want);
     }
 
-    private static ChargePosts ready(String text) {
-        ChargePosts x = Expect.built(text);
-        for (int post = 0; post < x.about(0) && post < x.about(1); post++) {
-            x.plug(post, post);
-            Expect.greet(x, post);
-        }
-        return x;
-    }
-
     private static void share(ChargePosts x, int post, int over, int under) {
         due("share(" + post + ", true)", x.share(post, true), over);
         due("share(" + post + ", false)", x.share(post, false), under);
@@ -39,7 +30,7 @@ final class SharesTest {
 
     private static void promise25Alone() {
         EXPECT.part("promise 25");
-        ChargePosts x = ready("F991p9p9p9p9c20100c99900c21100");
+        ChargePosts x = Expect.ready("F991p9p9p9p9c20100c99900c21100");
         share(x, 0, 20, 1);
         share(x, 1, 99, 1);
         share(x, 2, 20, 1);
@@ -57,19 +48,19 @@ final class SharesTest {
 
     private static void promise25Shared() {
         // Each of them takes 20 alone, and both together take 20.
-        ChargePosts x = ready("F011p1p1c20100c20100");
+        ChargePosts x = Expect.ready("F011p1p1c20100c20100");
         share(x, 0, 10, 1);
         share(x, 1, 10, 1);
         // 5 and 20 alone, 20 together: 5 or 0 for the first, 20 or 15 for the second.
-        ChargePosts y = ready("F011p1p1c05100c90100");
+        ChargePosts y = Expect.ready("F011p1p1c05100c90100");
         share(y, 0, 5, 2);
         share(y, 1, 35, 2);
         // The liar draws 4 and 3 alone, and 3 and 3 besides the plain car with its 3.
-        ChargePosts z = ready("F039p7p4c06421c03600");
+        ChargePosts z = Expect.ready("F039p7p4c06421c03600");
         share(z, 0, 13, 2);
         share(z, 1, 5, 2);
         // Any two or three of them take 20: 10 or 20 by the first place, then what is left.
-        ChargePosts w = ready("F011p1p1p1c10100c20100c20100");
+        ChargePosts w = Expect.ready("F011p1p1p1c10100c20100c20100");
         share(w, 0, 10, 3);
         share(w, 1, 25, 3);
         share(w, 2, 25, 3);
@@ -77,10 +68,10 @@ final class SharesTest {
 
     /** The answers are those of Model, which goes through all 24 orders. */
     private static void promise25Signs() {
-        share(ready("F069p2p8p5p7c01320c14820c13521c02911"), 0, -1, 12);
-        share(ready("F049p7p6p8p3c02421c08700c05321c16800"), 0, 9, 4);
-        share(ready("F029p4p2p5c17410c19721c01400"), 2, 5, 6);
-        share(ready("F049p3p1p4p9c19321c20201c10821c01710"), 3, 5, 12);
+        share(Expect.ready("F069p2p8p5p7c01320c14820c13521c02911"), 0, -1, 12);
+        share(Expect.ready("F049p7p6p8p3c02421c08700c05321c16800"), 0, 9, 4);
+        share(Expect.ready("F029p4p2p5c17410c19721c01400"), 2, 5, 6);
+        share(Expect.ready("F049p3p1p4p9c19321c20201c10821c01710"), 3, 5, 12);
     }
 
     private static void promise25States() {
@@ -92,13 +83,13 @@ final class SharesTest {
         share(x, 0, 36, 1);
         share(x, 1, 0, 1);
         // With communication nobody dies of silence.
-        share(ready("F991p4c99900"), 0, 80, 1);
+        share(Expect.ready("F991p4c99900"), 0, 80, 1);
         // The meters of before do not count.
-        ChargePosts y = ready("F041p4p4c99900c99900");
+        ChargePosts y = Expect.ready("F041p4p4c99900c99900");
         y.minute(1);
         share(y, 0, 40, 1);
         share(y, 1, 40, 1);
-        share(ready("F001p4c99900"), 0, 0, 1);
+        share(Expect.ready("F001p4c99900"), 0, 0, 1);
     }
 
     private static void chance(ChargePosts x, int n, int tenths, int over, int under) {
@@ -108,7 +99,7 @@ final class SharesTest {
 
     private static void promise26Chance() {
         EXPECT.part("promise 26");
-        ChargePosts x = ready("F991p1p1c99100c99100");
+        ChargePosts x = Expect.ready("F991p1p1c99100c99100");
         chance(x, 1, 5, 1, 1);
         chance(x, 1, 10, 1, 1);
         chance(x, 2, 5, 1, 4);
@@ -119,12 +110,12 @@ final class SharesTest {
         chance(x, 2, 10, 0, 1);
         due("minute", x.about(4), 0);
         due("acts", x.about(9), 10);
-        chance(ready("F992p1c99100"), 2, 10, 1, 1);
-        chance(ready("F992p1c99100"), 3, 10, 0, 1);
-        chance(ready("F992p1p1p1c99100c99100c99100"), 3, 3, 343, 1000);
-        chance(ready("F992p1p1p1p1c99100c99100c99100c99100"), 3, 3, 2401, 10000);
-        chance(ready("F992p1p1p1p1c99100c99100c99100c99100"), 3, 9, 1, 10000);
-        chance(ready("F999p1c99100"), 9, 10, 1, 1);
+        chance(Expect.ready("F992p1c99100"), 2, 10, 1, 1);
+        chance(Expect.ready("F992p1c99100"), 3, 10, 0, 1);
+        chance(Expect.ready("F992p1p1p1c99100c99100c99100"), 3, 3, 343, 1000);
+        chance(Expect.ready("F992p1p1p1p1c99100c99100c99100c99100"), 3, 3, 2401, 10000);
+        chance(Expect.ready("F992p1p1p1p1c99100c99100c99100c99100"), 3, 9, 1, 10000);
+        chance(Expect.ready("F999p1c99100"), 9, 10, 1, 1);
         chance(new ChargePosts(), 9, 5, 1, 1);
         chance(new ChargePosts(), 1, 10, 1, 1);
     }
@@ -141,14 +132,14 @@ final class SharesTest {
         chance(x, 1, 0, 0, 1);
         due("dead posts", x.about(6), 1);
         // A liar's post dies of its excess, unless it is silent before, which kills it, too.
-        chance(ready("F999p1c99101"), 1, 7, 1, 1);
-        chance(ready("F999p1c99101"), 2, 7, 0, 1);
+        chance(Expect.ready("F999p1c99101"), 1, 7, 1, 1);
+        chance(Expect.ready("F999p1c99101"), 2, 7, 0, 1);
         // As long as the plain car takes all that there is, the liar draws nothing and its post lives.
-        chance(ready("F011p1p1c99110c99101"), 9, 5, 1, 4);
+        chance(Expect.ready("F011p1p1c99110c99101"), 9, 5, 1, 4);
     }
 
     private static void promise26Errors() {
-        ChargePosts x = ready("F991p1c99100");
+        ChargePosts x = Expect.ready("F991p1c99100");
         due("chance(0, 5, true)", x.chance(0, 5, true), BAD);
         due("chance(10, 5, true)", x.chance(10, 5, true), BAD);
         due("chance(5, -1, false)", x.chance(5, -1, false), BAD);
@@ -187,8 +178,8 @@ final class SharesTest {
         EXPECT.part("promise 28");
         String text = "F073p5p3p9p4c20920c32411c30952c40800";
         for (int m = 1; m <= 20; m++) {
-            ChargePosts x = ready(text);
-            ChargePosts twin = ready(text);
+            ChargePosts x = Expect.ready(text);
+            ChargePosts twin = Expect.ready(text);
             x.minute(2);
             twin.minute(2);
             x.seed(1000L * m);
@@ -204,7 +195,7 @@ final class SharesTest {
     }
 
     private static void promise28State() {
-        ChargePosts x = ready("F073p5p3p9p4c20920c32411c30952c40800");
+        ChargePosts x = Expect.ready("F073p5p3p9p4c20920c32411c30952c40800");
         x.minute(2);
         int meters = x.about(7);
         int acts = x.about(9);
