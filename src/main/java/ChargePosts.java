@@ -751,7 +751,7 @@ public final class ChargePosts {
 
         private int indexOf(State s, int post) {
             int count = arrange(s, ALL_POSTS);
-            for (int i = 0; i < count; i++) {
+            for (int i = 0; i < count && i < MOST_POSTS; i++) {
                 if (order[i] == post) {
                     return i;
                 }
@@ -901,7 +901,7 @@ public final class ChargePosts {
         /** Puts the fed posts that are on into order and answers how many they are. */
         private int arrange(State s, int fed) {
             int count = 0;
-            for (int post = 0; post < MOST_POSTS; post++) {
+            for (int post = 0; post < MOST_POSTS && count < MOST_POSTS; post++) {
                 if (s.get(post, STATE) == ON && has(fed, post)) {
                     int at = count;
                     for (; at > 0 && overtakes(s, post, order[at - 1]); at--) {
@@ -925,11 +925,11 @@ public final class ChargePosts {
         /** Each of the first count posts of the order finds what it is given at the same index in given. */
         private void give(State s, int count, int suspect) {
             int left = s.limit;
-            for (int i = 0; i < count; i++) {
+            for (int i = 0; i < count && i < MOST_POSTS; i++) {
                 given[i] = left > 0 ? 1 : 0;
                 left -= given[i];
             }
-            for (int i = 0; i < count; i++) {
+            for (int i = 0; i < count && i < MOST_POSTS; i++) {
                 int more = Math.min(left, mostFor(s, order[i], suspect) - given[i]);
                 given[i] += more;
                 left -= more;
@@ -944,7 +944,7 @@ public final class ChargePosts {
         }
 
         private void draw(State s, int count, int suspect) {
-            for (int i = 0; i < count; i++) {
+            for (int i = 0; i < count && i < MOST_POSTS; i++) {
                 boolean lies = kindAt(s, order[i], suspect) == LIAR;
                 if (given[i] > 0) {
                     meter(s, order[i], lies ? given[i] + 1 : given[i]);

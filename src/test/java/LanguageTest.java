@@ -7,6 +7,7 @@ import java.nio.file.Files;
 import java.nio.file.Path;
 import java.util.Set;
 import java.util.TreeSet;
+import java.util.regex.Matcher;
 import java.util.regex.Pattern;
 
 /** The rules of ../shared/LANGUAGE.md that can be read off the class and its file; run from the project's folder. */
@@ -21,6 +22,8 @@ final class LanguageTest {
         "int see(int,int,int)", "int unsee()", "int which()", "int share(int,boolean)",
         "int chance(int,int,boolean)", "long seed(long)", "int drawn(int)", "int keep(int)", "int again(int)"};
     private static final String[] CONSTANTS = {"UNKNOWN", "BAD", "LATE", "FULL", "NONE"};
+    private static final Set<Class<?>> PLAIN = Set.of(int.class, long.class, boolean.class, int[].class, int[][].class);
+    private static final Pattern METHOD = Pattern.compile("(?m)^( {4}| {8})(?! )[^\\n;=/]*\\) \\{\n(?s:(.*?)\n)\\1\\}$");
     private static final String[] FORBIDDEN = {
         "\\bthrows?\\b", "\\btry\\b", "\\bcatch\\b", "\\bfinally\\b", "\\bsynchronized\\b", "\\bassert\\b", "->", "::",
         "\\bpackage\\b", "\\bimport\\b", "\\bequals\\b", "\\bhashCode\\b", "\\btoString\\b", "Exact\\b",
@@ -31,11 +34,14 @@ final class LanguageTest {
         face();
         constants();
         inside(ChargePosts.class);
-        for (Class<?> c : ChargePosts.class.getDeclaredClasses()) {
+        Class<?>[] classes = ChargePosts.class.getDeclaredClasses();
+        EXPECT.due("classes: " + classes.length, classes.length < 12 ? 1 : 0, 1);
+        for (Class<?> c : classes) {
             EXPECT.due(c.getSimpleName() + " is static", Modifier.isStatic(c.getModifiers()) ? 1 : 0, 1);
             inside(c);
         }
         words();
+        lengths();
         EXPECT.finish();
     }
 
@@ -82,7 +88,7 @@ final class LanguageTest {
     }
 
     private static void inside(Class<?> c) {
-        EXPECT.part("rules 5 and 11, " + c.getSimpleName());
+        EXPECT.part("rules 1, 3, 5 and 11, " + c.getSimpleName());
         int fields = 0;
         for (Field f : c.getDeclaredFields()) {
             if (Modifier.isStatic(f.getModifiers())) {
@@ -90,11 +96,44 @@ final class LanguageTest {
             } else {
                 fields++;
             }
+            EXPECT.due("the type of " + f.getName(), isAllowed(f.getType()) ? 1 : 0, 1);
         }
         EXPECT.due("fields: " + fields, fields <= 20 ? 1 : 0, 1);
         for (Method m : c.getDeclaredMethods()) {
             EXPECT.due("parameters of " + m.getName(), m.getParameterCount() <= 7 ? 1 : 0, 1);
+            boolean open = Modifier.isPublic(m.getModifiers());
+            EXPECT.due(m.getName() + " bears a public name", !open && isPublicName(m.getName()) ? 1 : 0, 0);
         }
+    }
+
+    private static boolean isAllowed(Class<?> type) {
+        Class<?> part = type.isArray() ? type.getComponentType() : type;
+        return PLAIN.contains(type) || part.getNestHost() == ChargePosts.class;
+    }
+
+    private static boolean isPublicName(String name) {
+        for (String method : FACE) {
+            if (method.contains(" " + name + "(")) {
+                return true;
+            }
+        }
+        return false;
+    }
+
+    private static void lengths() throws IOException {
+        EXPECT.part("rule 11");
+        Matcher methods = METHOD.matcher(Files.readString(FILE));
+        int found = 0;
+        while (methods.find()) {
+            found++;
+            long lines = methods.group().lines().count();
+            EXPECT.due("lines: " + methods.group().lines().findFirst().get(), lines <= 60 ? 1 : 0, 1);
+        }
+        int declared = ChargePosts.class.getDeclaredMethods().length;
+        for (Class<?> c : ChargePosts.class.getDeclaredClasses()) {
+            declared += c.getDeclaredMethods().length;
+        }
+        EXPECT.due("methods found, without constructors", found >= declared ? 1 : 0, 1);
     }
 
     private static void words() throws IOException {
